@@ -3,6 +3,10 @@ final class Due {
     private int asked;
     private int wrong;
 
+    int asked() {
+        return asked;
+    }
+
     void due(String call, long got, long want) {
         asked++;
         if (got != want) {
