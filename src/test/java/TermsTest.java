@@ -317,6 +317,16 @@ public final class TermsTest {
         due("arcs that do not lead round: state()", beside.state(), 0);
         due("cost()", beside.cost(), 0);
 
+        FlowLedger late = new FlowLedger();
+        for (int v = 6; v >= 0; v--) {
+            late.add(v, v + 1, -1, -1);
+        }
+        due("seven arcs in a row, the last one first: state()", late.state(), 0);
+        due("add(7, 0, -1, 7)", late.add(7, 0, -1, 7), 7);
+        due("led round at 0: state()", late.state(), 0);
+        late.change(7, -1, 6);
+        due("led round at -1: state()", late.state(), FlowLedger.ENDLESS);
+
         FlowLedger eight = new FlowLedger();
         eight.add(0, 1, -1, 10);
         eight.add(1, 0, -1, -9);
