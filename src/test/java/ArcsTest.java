@@ -232,7 +232,10 @@ public final class ArcsTest {
 
         FlowLedger y = Nets.wideWayBack(20);
         due("19 times 30 round: most(19)", y.most(19), 570);
-        due("the most that all the others have: least(19)", y.least(19), 0);
+        y.supply(0, 30);
+        y.supply(1, -30);
+        due("and 30 more that have to go: most(19)", y.most(19), 600);
+        due("with none round: least(19)", y.least(19), 30);
     }
 
     private static void mostIsNone() {

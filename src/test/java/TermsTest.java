@@ -202,6 +202,11 @@ public final class TermsTest {
         FlowLedger y = Nets.wideWayBack(19);
         due("570 on one arc: least(19)", y.least(19), 570);
         due("cost()", y.cost(), -570);
+        y.supply(0, 30);
+        y.supply(1, -30);
+        due("600, the most that 19 other arcs and a supply bring: least(19)", y.least(19), 600);
+        due("most(19)", y.most(19), 600);
+        due("cost()", y.cost(), 600 * 19 - 570 * 20);
     }
 
     private static void flowOfAnArc() {
