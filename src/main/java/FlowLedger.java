@@ -26,12 +26,12 @@ public final class FlowLedger {
     private static final int OWN = 1;
     private static final int FINE = MOST_UNITS + 1;
 
-    private final Network network;
     private final Router router;
+    private final Network network;
 
     public FlowLedger() {
-        network = new Network();
-        router = new Router(network);
+        router = new Router();
+        network = router.network;
     }
 
     public int add(int from, int to, int capacity, int cost) {
@@ -221,7 +221,8 @@ public final class FlowLedger {
         /** The room of an unbounded arc, which all that is ever sent does not use up. */
         private static final int ENOUGH = 2 * MOST_UNITS;
 
-        private final Network network;
+        /** Made here and not handed in: no constructor hands out a part of what it makes. */
+        final Network network = new Network();
         private final int[] tail = new int[2 * MOST_ARCS];
         private final int[] head = new int[2 * MOST_ARCS];
         private final int[] weight = new int[2 * MOST_ARCS];
@@ -229,10 +230,6 @@ public final class FlowLedger {
         private final int[] excess = new int[NODES];
         private final int[] distance = new int[NODES];
         private final int[] entry = new int[NODES];
-
-        Router(Network network) {
-            this.network = network;
-        }
 
         /** Lays the links with the arcs' costs times the scale as weights; their room stays. */
         void lay(int scale) {
